@@ -188,9 +188,9 @@ public final class PairedLines {
             return NO + BAD;
         }
         terms.load(table, rowOf(out), rate);
-        long squares = Exact.times(terms.twice, terms.total);
-        long square = Exact.times(terms.once, terms.once);
-        long below = Exact.times(terms.total, terms.total);
+        long squares = Whole.times(terms.twice, terms.total);
+        long square = Whole.times(terms.once, terms.once);
+        long below = Whole.times(terms.total, terms.total);
         if (squares < 0 || square < 0) {
             return NO + MUCH;
         }
@@ -348,7 +348,7 @@ public final class PairedLines {
             return NO + PLACE;
         }
         if (k == -1) {
-            return net.pairingsOf(net.allLines(), size);
+            return net.pairingsOf(size);
         }
         long found = net.pairingAt(size, k);
         return found < 0 ? NO + PLACE : found;
@@ -642,7 +642,7 @@ public final class PairedLines {
         if (above < 0 || below <= 0) {
             return NO + MUCH;
         }
-        long common = Exact.commonOf(above, below);
+        long common = Whole.commonOf(above, below);
         return (part == 0 ? above : below) / common;
     }
 
@@ -811,14 +811,18 @@ public final class PairedLines {
                     if (weight == 0) {
                         return 0;
                     }
-                    all = Exact.times(all, weight);
+                    all = Whole.times(all, weight);
                 }
             }
             return all;
         }
 
+        long pairingsOf(int size) {
+            return pairingsIn(allLines(), size);
+        }
+
         /** How many PAIRINGS of a size there are of free LINES; as each one's greatest LINE is taken first, none comes twice. */
-        long pairingsOf(long free, int size) {
+        private long pairingsIn(long free, int size) {
             int left = Long.bitCount(free);
             if (size <= 0 || left < size) {
                 return size == 0 ? 1 : 0;
@@ -831,7 +835,7 @@ public final class PairedLines {
             for (int i = 0; i < left; i++) {
                 long bit = rest & -rest;
                 rest ^= bit;
-                found += pairingsOf(freeBelow(free, bit), size - 1);
+                found += pairingsIn(freeBelow(free, bit), size - 1);
             }
             return found;
         }
@@ -853,7 +857,7 @@ public final class PairedLines {
                 for (int i = Long.bitCount(free); i > 0 && taken == 0; i--) {
                     long bit = rest & -rest;
                     rest ^= bit;
-                    long many = pairingsOf(freeBelow(free, bit), open - 1);
+                    long many = pairingsIn(freeBelow(free, bit), open - 1);
                     if (ahead < many) {
                         taken = bit;
                     } else {
@@ -884,6 +888,10 @@ public final class PairedLines {
         }
 
         float cut(int point, int out, int rate, int depth) {
+            return cutAt(point, out, rate, depth);
+        }
+
+        private float cutAt(int point, int out, int rate, int depth) {
             if (depth <= 0) {
                 return 1.0f;
             }
@@ -892,7 +900,7 @@ public final class PairedLines {
             float s = 1.0f;
             for (int v = 0; v < pointCount; v++) {
                 if ((next >> v & 1) != 0) {
-                    s = s + (float) (rate * weightBetween(point, v)) * cut(v, gone, rate, depth - 1);
+                    s = s + (float) (rate * weightBetween(point, v)) * cutAt(v, gone, rate, depth - 1);
                 }
             }
             return 1.0f / s;
@@ -968,7 +976,7 @@ public final class PairedLines {
                 return;
             }
             for (int k = 1; k < SIZES; k++) {
-                worths[row + k] = Exact.plus(worths[row + k], Exact.times(weight, worths[left + k - 1]));
+                worths[row + k] = Whole.plus(worths[row + k], Whole.times(weight, worths[left + k - 1]));
             }
         }
 
@@ -1000,10 +1008,10 @@ public final class PairedLines {
             for (int i = 1; i <= degree; i++) {
                 power *= q;
                 long number = numberAt(row, degree, degree - i);
-                if (!Exact.canMultiply(v, p) || !Exact.canMultiply(number, power)) {
+                if (!Whole.canMultiply(v, p) || !Whole.canMultiply(number, power)) {
                     return MUCH;
                 }
-                if (!Exact.canAdd(v * p, number * power)) {
+                if (!Whole.canAdd(v * p, number * power)) {
                     return MUCH;
                 }
                 v = v * p + number * power;
@@ -1027,10 +1035,10 @@ public final class PairedLines {
             twice = total;
             long power = 1;
             for (int k = 0; k < SIZES; k++) {
-                each[k] = much ? -1 : Exact.times(table.worths[row + k], power);
-                total = Exact.plus(total, each[k]);
-                once = Exact.plus(once, Exact.times(k, each[k]));
-                twice = Exact.plus(twice, Exact.times(k * k, each[k]));
+                each[k] = much ? -1 : Whole.times(table.worths[row + k], power);
+                total = Whole.plus(total, each[k]);
+                once = Whole.plus(once, Whole.times(k, each[k]));
+                twice = Whole.plus(twice, Whole.times(k * k, each[k]));
                 power *= rate;
             }
         }
@@ -1118,10 +1126,10 @@ public final class PairedLines {
                 long heavy = rate * net.weightBetween(spots[at], spots[next]);
                 long c = below[next];
                 long d = above[next];
-                long top = Exact.plus(Exact.times(a, d), Exact.times(Exact.times(heavy, c), b));
-                long foot = Exact.times(b, d);
+                long top = Whole.plus(Whole.times(a, d), Whole.times(Whole.times(heavy, c), b));
+                long foot = Whole.times(b, d);
                 boolean much = top <= 0 || foot <= 0;
-                long common = much ? 1 : Exact.commonOf(top, foot);
+                long common = much ? 1 : Whole.commonOf(top, foot);
                 a = much ? -1 : top / common;
                 b = much ? -1 : foot / common;
                 next = ends[next];
@@ -1327,7 +1335,7 @@ public final class PairedLines {
     }
 
     /** Whole numbers that know when they are none of 64 bits. */
-    private static final class Exact {
+    private static final class Whole {
         /** Of two that aren't less than nothing; -1 stands for MUCH, and what is made of it is MUCH. */
         static long plus(long a, long b) {
             return a < 0 || b < 0 || a > MOST_LONG - b ? -1 : a + b;
