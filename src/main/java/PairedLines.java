@@ -287,7 +287,7 @@ public final class PairedLines {
         if (isNoPointIn(point, out) || isNoRate(rate) || isBeyond(depth, 0, MOST_DEPTH)) {
             return BAD;
         }
-        return HostBits.ofFloat(net.cut(point, out, rate, depth));
+        return net.cutAsBits(point, out, rate, depth);
     }
 
     // ---- signs
@@ -887,8 +887,8 @@ public final class PairedLines {
             return found;
         }
 
-        float cut(int point, int out, int rate, int depth) {
-            return cutAt(point, out, rate, depth);
+        int cutAsBits(int point, int out, int rate, int depth) {
+            return HostBits.ofFloat(cutAt(point, out, rate, depth));
         }
 
         private float cutAt(int point, int out, int rate, int depth) {
@@ -964,19 +964,22 @@ public final class PairedLines {
                 if ((next >> v & 1) != 0) {
                     int left = rest ^ 1 << v;
                     fill(left, depth + 1);
-                    addPaired(row, left * SIZES, weights[point * MOST_POINTS + v]);
+                    addPaired(set, left, weights[point * MOST_POINTS + v]);
                     longest[set] = Math.max(longest[set], longest[left] + 1);
                 }
             }
         }
 
-        /** A WEIGHT of 0 adds nothing, even where what it would be taken times is MUCH. */
-        private void addPaired(int row, int left, int weight) {
+        /** A WEIGHT of 0 adds nothing, even where what it would be taken times is MUCH; and beyond the longest PAIRING that is left there is nothing to add. */
+        private void addPaired(int set, int left, int weight) {
             if (weight == 0) {
                 return;
             }
-            for (int k = 1; k < SIZES; k++) {
-                worths[row + k] = Whole.plus(worths[row + k], Whole.times(weight, worths[left + k - 1]));
+            int to = set * SIZES;
+            int from = left * SIZES;
+            int most = Math.min(longest[left] + 1, SIZES - 1);
+            for (int k = 1; k <= most; k++) {
+                worths[to + k] = Whole.plus(worths[to + k], Whole.times(weight, worths[from + k - 1]));
             }
         }
 
@@ -1394,17 +1397,13 @@ public final class PairedLines {
             return x < 0 || x == 0 && 1.0 / x < 0;
         }
 
-        /** Two's powers are taken off until 1 <= rest < 2, which never rounds; below the least power the digits move down. */
+        /** Of a size below 2 to the 64th, as all here are: two's powers are taken off until 1 <= rest < 2, which never rounds; below the least power the digits move down. */
         private static long packed(double size, int digits, int leastPower) {
             if (size == 0) {
                 return 0;
             }
             double rest = size;
             int power = 0;
-            for (int i = 0; i < 20 && rest >= 18446744073709551616.0; i++) {
-                rest = rest / 18446744073709551616.0;
-                power += 64;
-            }
             for (int i = 0; i < 20 && rest * 18446744073709551616.0 < 1; i++) {
                 rest = rest * 18446744073709551616.0;
                 power -= 64;

@@ -131,7 +131,8 @@ public final class NetTest {
         CHECK.due("6 it is", x.told(1, 0), 3);
         CHECK.due("6 FIGURE stays", x.told(1, 1), 2);
         CHECK.due("6 counts follow", x.counts(0, 1), 5);
-        CHECK.due("6 turns again", x.turns(1, 5), 3);
+        CHECK.due("6 to 0 and on", x.turns(1, 0), 3);
+        CHECK.due("6 turns again", x.turns(1, 5), 0);
         CHECK.due("6 kind 6", x.turns(1, 6), -2);
         CHECK.due("6 kind -1", x.turns(1, -1), -2);
         CHECK.due("6 line 2", x.turns(2, 1), -2);
@@ -144,7 +145,13 @@ public final class NetTest {
         CHECK.due("7 line 4", x.drop(4), -2);
         CHECK.due("7 line -1", x.drop(-1), -2);
         CHECK.due("7 counts", x.counts(0, 1), 10);
+        x.turns(2, 2);
+        x.turns(3, 3);
         CHECK.due("7 drop", x.drop(1), 3);
+        CHECK.due("7 KINDS move", x.told(1, 0), 2);
+        CHECK.due("7 KINDS move", x.told(2, 0), 3);
+        x.turns(1, 0);
+        x.turns(2, 0);
         CHECK.due("7 counts follow", x.counts(0, 1), 8);
         CHECK.due("7 those behind move", x.told(1, 1), 3);
         CHECK.due("7 with their POINTS", x.told(1, 3), 2);

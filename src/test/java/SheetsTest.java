@@ -241,6 +241,15 @@ public final class SheetsTest {
             x.cell(0, 6, 1);
             CHECK.due("39 COUNT 6", x.same(0, 0), 6);
             CHECK.due("39 with OUT", x.same(0, 1), 1);
+            x.sheet(0, sort, 60);
+            x.counts(0, 0);
+            CHECK.due("39 with OUT, ahead", x.same(0, 1), 0);
+            x.cell(0, 0, 1);
+            x.cell(0, 1, 9);
+            x.cell(0, 2, 8);
+            CHECK.due("39 with OUT, all of sixty", x.same(0, 1), -1);
+            x.cell(0, 59, 1);
+            CHECK.due("39 the last of sixty", x.same(0, 1), 59);
             x.sheet(0, sort, 0);
             CHECK.due("39 of no place", x.same(0, 0), -1);
         }

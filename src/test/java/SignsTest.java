@@ -42,6 +42,12 @@ public final class SignsTest {
         PairedLines five = Check.apart(5, 0, 6000);
         CHECK.due("25 all five fit", five.sign(0, 0, 1), -1);
         CHECK.due("25 times 2 ten times it does not", five.sign(0, 0, 2), -5);
+        PairedLines sums = Check.apart(6, 0, 1268);
+        sums.set(5, 973);
+        CHECK.due("25 a sum is MUCH, its parts are not", sums.sign(0, 52, 1), -5);
+        PairedLines less = Check.apart(6, 0, 25);
+        less.set(5, 8600);
+        CHECK.due("25 a sum far below nothing", less.sign(0, 59, 6), -5);
         wholeWithinLong();
     }
 
