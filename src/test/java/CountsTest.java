@@ -91,6 +91,27 @@ public final class CountsTest {
         CHECK.due("13 COUNTS fit", six.counts(0, 6), 9223000000000000000L);
         CHECK.due("13 SUM is MUCH", six.sum(0, 1), Check.MUCH);
         CHECK.due("13 BAD ahead of MUCH", six.sum(0, 10), Check.BAD);
+        greatestSum();
+    }
+
+    /** Three ways of three LINES each, whose SUMS (1 + a) * (1 + c) + b are 649657, 649159 and 21870289: one times the other 2 ^ 63 - 1. */
+    private static void greatestSum() {
+        PairedLines x = new PairedLines();
+        x.points(12);
+        int[] figures = {805, 21, 805, 0, 804, 329, 805, 0, 4675, 5313, 4675};
+        for (int a = 0; a < 11; a++) {
+            if (a % 4 != 3) {
+                x.line(0, figures[a], a, a + 1);
+            }
+        }
+        CHECK.due("13 the greatest of 64 bits", x.sum(0, 1), Long.MAX_VALUE);
+        CHECK.due("13 likely then", x.likely(0, 1), 6);
+        CHECK.due("13 its mean is MUCH", x.mean(0, 1, 0), Check.MUCH);
+        CHECK.due("13 alone of it", x.alone(0, 0, 1, 1), 649657);
+        x.set(7, 5314);
+        CHECK.due("13 beyond it", x.sum(0, 1), Check.MUCH);
+        x.set(7, 5312);
+        CHECK.due("13 below it", x.sum(0, 1), 649657L * 649159 * 21870288);
     }
 
     private static void promise14() {
