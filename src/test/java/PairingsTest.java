@@ -27,7 +27,7 @@ public final class PairingsTest {
         CHECK.due("27 LINES 38 and 39 meet", full.isPairing(3L << 38), 0);
     }
 
-    /** LINES by POINTS from 0 on; LINE 39 is that of 4 and 10. */
+    /** LINES by POINTS from 0 on; LINE 39 is that of 4 and 6. */
     private static PairedLines forty() {
         return Check.whole(12, 0, 1);
     }
