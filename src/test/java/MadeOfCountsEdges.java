@@ -438,6 +438,10 @@ final class MadeOfCountsEdges {
             e.refuses("the sum is 2 ^ 63", () -> Edges.apart(256, 256, 256, 256, 2816, 3328), x -> x.sign(0, at, 1), Edges.MUCH);
             e.takes("the sum is -2 ^ 63", () -> Edges.apart(256, 256, 10496, 18688, 18688), x -> x.sign(0, at, 1), -1);
             e.refuses("the sum is beyond", () -> Edges.apart(256, 256, 10496, 18688, 18690), x -> x.sign(0, at, 1), Edges.MUCH);
+            e.takes("of 2 the sum fits", () -> Edges.apart(64, 64, 64, 64, 703, 832), x -> x.sign(0, at, 2), 1);
+            e.refuses("of 2 the sum is 2 ^ 63", () -> Edges.apart(64, 64, 64, 64, 704, 832), x -> x.sign(0, at, 2), Edges.MUCH);
+            e.takes("of 2 the sum is -2 ^ 63", () -> Edges.apart(64, 64, 2624, 4672, 4672), x -> x.sign(0, at, 2), -1);
+            e.refuses("of 2 the sum is beyond", () -> Edges.apart(64, 64, 2624, 4672, 4673), x -> x.sign(0, at, 2), Edges.MUCH);
         }
         e.refuses("39 twelve times", () -> points(12), x -> x.sign(0, 39, 1), Edges.MUCH);
         e.takes("38 twelve times isn't", () -> points(12), x -> x.sign(0, 38, 1), 1);

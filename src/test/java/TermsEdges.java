@@ -219,8 +219,13 @@ final class TermsEdges {
         x.image();
         x.tree(0, 0);
         x.points(12);
+        for (int i = 0; i < 7; i++) {
+            x.line(5 - i % 6, 1, 11, i);
+        }
         x.tide(9);
+        e.due("COUNT 1 of another net", x.counts(0, 1), 1 + 2 + 0 + 11 + 0 + 1 + 1);
         e.due("LINES", x.back(), 6);
+        e.due("COUNT 1", x.counts(0, 1), 51);
         e.due("POINTS", x.count(0), 7);
         e.due("TIDE", x.count(2), 4);
         for (int i = 0; i < 6; i++) {
