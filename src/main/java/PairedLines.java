@@ -25,6 +25,10 @@ public final class PairedLines {
     private static final int SETS = 4096;
     /** COUNTS of a set: 0 .. 6 LINES. */
     private static final int SIZES = 7;
+    /** The first POINTS, whose sets have no place of their own in the table of COUNTS. */
+    private static final int LOOSE = 3;
+    private static final int FIRST_POINTS = (1 << LOOSE) - 1;
+    private static final int PLACES = LOOSE + (SETS >> LOOSE);
     /** Which KIND each KIND stands under. */
     private static final int[] ABOVE = {-1, 0, 0, 1, 2, 0};
 
@@ -651,16 +655,16 @@ public final class PairedLines {
             case 0:
                 return (long) (m * 1000);
             case 1:
-                return HostBits.ofFloat((float) m);
+                return HostBits.ofFloat((float) m, false);
             case 2:
-                return HostBits.ofDouble(m);
+                return HostBits.ofDouble(m, false);
             case 3:
                 return (int) (HostBits.restOf(m, 1.0) * 1000);
             case 4:
-                return HostBits.ofDouble(HostBits.restOf(m, 0.375));
+                return HostBits.ofDouble(HostBits.restOf(m, 0.375), false);
             default:
                 // what is left of two floats is a float too, so that it may be found by doubles
-                return HostBits.ofFloat((float) HostBits.restOf((float) m, 0.3f));
+                return HostBits.ofFloat((float) HostBits.restOf((float) m, 0.3f), false);
         }
     }
 
@@ -888,7 +892,7 @@ public final class PairedLines {
         }
 
         int cutAsBits(int point, int out, int rate, int depth) {
-            return HostBits.ofFloat(cutAt(point, out, rate, depth));
+            return HostBits.ofFloat(cutAt(point, out, rate, depth), false);
         }
 
         private float cutAt(int point, int out, int rate, int depth) {
@@ -907,13 +911,15 @@ public final class PairedLines {
         }
     }
 
-    /** COUNTS by sets of POINTS, each made once as long as the net stays as it is. */
+    /** COUNTS by sets of POINTS. Sets without the first LOOSE POINTS have a place each and stay as long as the net does; of the others, which would need eight times the room, just the last one of each least POINT stays. */
     private static final class Table {
-        /** SIZES numbers a set; less than nothing: MUCH. */
-        final long[] worths = new long[SETS * SIZES];
-        /** How many LINES the longest PAIRING of a set has. */
-        final int[] longest = new int[SETS];
-        private final int[] stamps = new int[SETS];
+        /** SIZES numbers a place; less than nothing: MUCH. */
+        final long[] worths = new long[PLACES * SIZES];
+        /** How many LINES the longest PAIRING of the set at a place has. */
+        final int[] longest = new int[PLACES];
+        /** Which set is at a place, and since when. */
+        private final int[] sets = new int[PLACES];
+        private final int[] stamps = new int[PLACES];
         private final int[] nears = new int[MOST_POINTS];
         private final int[] weights = new int[MOST_POINTS * MOST_POINTS];
         private int stamp = 0;
@@ -936,46 +942,54 @@ public final class PairedLines {
             }
         }
 
+        /** Where the numbers of a set begin in worths; those of a set with one of the first POINTS stand until the next such set is asked for. */
         int rowFor(int set) {
-            fill(set, 0);
-            return set * SIZES;
+            return placeFor(set, 0) * SIZES;
         }
 
-        /** The least POINT of a set is alone or paired; either way fewer POINTS are left. */
-        private void fill(int set, int depth) {
-            if (stamps[set] == stamp || depth > MOST_POINTS) {
-                return;
+        private static int placeOf(int set) {
+            int first = set & FIRST_POINTS;
+            return first == 0 ? LOOSE + (set >> LOOSE) : leastOf(first);
+        }
+
+        private static int leastOf(int set) {
+            return Integer.bitCount((set & -set) - 1);
+        }
+
+        /** The place of a set, with its COUNTS: its least POINT is alone or paired, and either way the sets that are left have greater least POINTS, so that none of them comes to this place. */
+        private int placeFor(int set, int depth) {
+            int at = placeOf(set);
+            if (stamps[at] == stamp && sets[at] == set || depth > MOST_POINTS) {
+                return at;
             }
-            stamps[set] = stamp;
-            int row = set * SIZES;
+            stamps[at] = stamp;
+            sets[at] = set;
             if (set == 0) {
                 // no other COUNT of no POINTS is ever written
-                worths[row] = 1;
-                return;
+                worths[at * SIZES] = 1;
+                return at;
             }
-            int least = set & -set;
-            int point = Integer.bitCount(least - 1);
-            int rest = set ^ least;
-            fill(rest, depth + 1);
-            System.arraycopy(worths, rest * SIZES, worths, row, SIZES);
-            longest[set] = longest[rest];
+            int point = leastOf(set);
+            int rest = set ^ 1 << point;
+            int without = placeFor(rest, depth + 1);
+            System.arraycopy(worths, without * SIZES, worths, at * SIZES, SIZES);
+            longest[at] = longest[without];
             int next = nears[point] & rest;
             for (int v = point + 1; v < MOST_POINTS; v++) {
                 if ((next >> v & 1) != 0) {
-                    int left = rest ^ 1 << v;
-                    fill(left, depth + 1);
-                    addPaired(set, left, weights[point * MOST_POINTS + v]);
-                    longest[set] = Math.max(longest[set], longest[left] + 1);
+                    addPaired(at, placeFor(rest ^ 1 << v, depth + 1), weights[point * MOST_POINTS + v]);
                 }
             }
+            return at;
         }
 
         /** A WEIGHT of 0 adds nothing, even where what it would be taken times is MUCH; and beyond the longest PAIRING that is left there is nothing to add. */
-        private void addPaired(int set, int left, int weight) {
+        private void addPaired(int at, int left, int weight) {
+            longest[at] = Math.max(longest[at], longest[left] + 1);
             if (weight == 0) {
                 return;
             }
-            int to = set * SIZES;
+            int to = at * SIZES;
             int from = left * SIZES;
             int most = Math.min(longest[left] + 1, SIZES - 1);
             for (int k = 1; k <= most; k++) {
@@ -1179,6 +1193,8 @@ public final class PairedLines {
         private final long[] longs = new long[MOST_CELLS];
         private final float[] floats = new float[MOST_CELLS];
         private final double[] doubles = new double[MOST_CELLS];
+        /** Below 0 if the number came as one below nothing: a float or a double keeps that sign even as parts make it a 0, where comparing can't see it. */
+        private final int[] signs = new int[MOST_CELLS];
         int sort = NONE;
         int size = 0;
 
@@ -1190,6 +1206,7 @@ public final class PairedLines {
                 longs[i] = 0;
                 floats[i] = 0.0f;
                 doubles[i] = 0.0;
+                signs[i] = 0;
             }
         }
 
@@ -1217,6 +1234,7 @@ public final class PairedLines {
             if (sort == INTS && v != (int) v) {
                 return false;
             }
+            signs[i] = Long.compare(v, 0);
             if (sort == INTS) {
                 ints[i] = (int) v;
             } else if (sort == LONGS) {
@@ -1251,7 +1269,7 @@ public final class PairedLines {
                 case 2:
                     return asLong(i);
                 case 3:
-                    return HostBits.ofFloat(asFloat(i));
+                    return HostBits.ofFloat(asFloat(i), isNegative(i));
                 default:
                     return (byte) asInt(i);
             }
@@ -1264,9 +1282,20 @@ public final class PairedLines {
                 case LONGS:
                     return longs[i];
                 case FLOATS:
-                    return HostBits.ofFloat(floats[i]);
+                    return HostBits.ofFloat(floats[i], isNegative(i));
                 default:
-                    return HostBits.ofDouble(doubles[i]);
+                    return HostBits.ofDouble(doubles[i], isNegative(i));
+            }
+        }
+
+        private boolean isNegative(int i) {
+            switch (sort) {
+                case INTS:
+                    return ints[i] < 0;
+                case LONGS:
+                    return longs[i] < 0;
+                default:
+                    return signs[i] < 0;
             }
         }
 
@@ -1325,6 +1354,7 @@ public final class PairedLines {
         }
 
         void take(Sheet from, int i, int j, int n) {
+            System.arraycopy(from.signs, i, signs, j, n);
             if (sort == INTS) {
                 System.arraycopy(from.ints, i, ints, j, n);
             } else if (sort == LONGS) {
@@ -1382,19 +1412,14 @@ public final class PairedLines {
 
     /** The host's floats and doubles as the bits that they are, and what is left of one by another, made by + - * / alone. */
     private static final class HostBits {
-        static int ofFloat(float x) {
+        static int ofFloat(float x, boolean isNegative) {
             int size = (int) packed(x < 0 ? -x : x, 23, -126);
-            return isLess(x) ? size | LEAST_INT : size;
+            return isNegative ? size | LEAST_INT : size;
         }
 
-        static long ofDouble(double x) {
+        static long ofDouble(double x, boolean isNegative) {
             long size = packed(x < 0 ? -x : x, 52, -1022);
-            return isLess(x) ? size | LEAST_LONG : size;
-        }
-
-        /** A 0 that is less than nothing is known only by what it makes of 1. */
-        private static boolean isLess(double x) {
-            return x < 0 || x == 0 && 1.0 / x < 0;
+            return isNegative ? size | LEAST_LONG : size;
         }
 
         /** Of a size below 2 to the 64th, as all here are: two's powers are taken off until 1 <= rest < 2, which never rounds; below the least power the digits move down. */

@@ -26,6 +26,7 @@ public final class ModelTest {
         int[] asked = new int[44];
         for (int run = 0; run < RUNS; run++) {
             new ModelTest(run, asked).go();
+            new ModelTest(run, asked).goByRows();
         }
         for (int call = 0; call < 43; call++) {
             CHECK.holds("each call is asked: " + call, asked[call] > 50);
@@ -42,6 +43,45 @@ public final class ModelTest {
         }
         for (int i = 0; i < CALLS - 120; i++) {
             ask(random.nextInt(100));
+        }
+    }
+
+    /** Short SHEETS, so that what one call made is what the next ones take. */
+    private void goByRows() {
+        points(4);
+        for (int s = 0; s < 4; s++) {
+            int sort = run % 2 == 0 ? s : 2 + s % 2;
+            due(32, "sheet", x.sheet(s, sort, 3), y.sheet(s, sort, 3));
+        }
+        for (int i = 0; i < 40; i++) {
+            askRow(random.nextInt(8), random.nextInt(4), random.nextInt(3));
+        }
+    }
+
+    private void askRow(int way, int s, int i) {
+        int t = random.nextInt(4);
+        int j = random.nextInt(3);
+        int n = random.nextInt(4);
+        int m = up(1, 99);
+        long v = number();
+        switch (way) {
+            case 0, 1 -> due(33, "cell", x.cell(s, i, v), y.cell(s, i, v));
+            case 2, 3 -> {
+                int times = random.nextInt(5) == 0 ? 30 : up(1, 4);
+                for (int k = 0; k < times; k++) {
+                    due(35, "parts", x.parts(s, i, m), y.parts(s, i, m));
+                }
+            }
+            case 4, 5 -> due(38, "copy", x.copy(s, i, t, j, n), y.copy(s, i, t, j, n));
+            case 6 -> due(36, "writes", x.writes(s, 15 >> n), y.writes(s, 15 >> n));
+            default -> {
+                if (random.nextInt(6) == 0) {
+                    due(32, "sheet", x.sheet(s, t, 3), y.sheet(s, t, 3));
+                }
+            }
+        }
+        for (int how = 0; how < 5; how++) {
+            due(34, "read", x.read(s, i, how), y.read(s, i, how));
         }
     }
 

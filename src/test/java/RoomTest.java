@@ -11,6 +11,9 @@ import java.util.Map;
 public final class RoomTest {
     private static final Check CHECK = new Check("RoomTest");
     private static final int CALLS = 512;
+    /** What one room holds. */
+    private static final long OBJECTS = 600000;
+    private static final long ELEMENTS = 7300000;
 
     public static void main(String[] args) throws IllegalAccessException {
         sizeOfOne();
@@ -32,8 +35,8 @@ public final class RoomTest {
             }
         }
         System.out.println("RoomTest: an object is " + seen.size() + " objects and arrays, " + size + " fields and elements");
-        CHECK.holds("few objects", seen.size() < 100);
-        CHECK.holds("few fields and elements", size < 60000);
+        CHECK.holds("objects, if each call of a run made one anew", (long) seen.size() * CALLS < OBJECTS);
+        CHECK.holds("fields and elements, likewise", size * CALLS < ELEMENTS);
     }
 
     private static long inArray(Object o, List<Object> open) {

@@ -147,6 +147,38 @@ public final class SheetsTest {
         CHECK.due("37 missing", x.parts(0, 3, 1), -11);
         downToNothing(3);
         downToNothing(-5);
+        signsOfNothing();
+    }
+
+    /** A whole number's 0 has no sign, a float's or a double's keeps that of what it was a part of, wherever it comes to. */
+    private static void signsOfNothing() {
+        int less = Float.floatToIntBits(-0.0f);
+        for (int s = 0; s < 4; s++) {
+            PairedLines x = fourSheets(3);
+            x.cell(s, 0, -7);
+            for (int i = 0; i < 170; i++) {
+                x.parts(s, 0, 99);
+            }
+            int due = s < 2 ? 0 : less;
+            CHECK.due("37 a part of -7 as a float, of sort " + s, x.read(s, 0, 3), due);
+            CHECK.due("37 as a long", x.read(s, 0, 2), 0);
+            x.cell(s, 2, -1);
+            x.copy(s, 0, s, 1, 1);
+            CHECK.due("40 it keeps its sign", x.read(s, 1, 3), due);
+            CHECK.due("40 the one behind has its own", x.read(s, 2, 2), -1);
+            CHECK.due("40 and what was copied", x.read(s, 0, 3), due);
+            x.cell(s, 0, 0);
+            CHECK.due("35 a whole 0 comes there", x.read(s, 0, 3), 0);
+            int other = (s + 1) % 4;
+            x.sheet(other, s, 2);
+            x.copy(s, 1, other, 0, 1);
+            CHECK.due("40 another sheet", x.read(other, 0, 3), due);
+            x.copy(other, 1, other, 0, 1);
+            CHECK.due("40 a 0 comes there", x.read(other, 0, 3), 0);
+            x.sheet(s, s, 3);
+            CHECK.due("34 all 0", x.read(s, 1, 3), 0);
+            CHECK.due("34 also where one was below nothing", x.read(s, 2, 0), 0);
+        }
     }
 
     /** The least floats and doubles have fewer digits, and behind them stands a 0 that keeps its sign. */
