@@ -382,11 +382,9 @@ public final class PairedLines {
         if (isNoRack(r) || !net.hasLine(line)) {
             return BAD;
         }
-        if (racks[r].isMissing()) {
-            return NOTHING;
-        }
-        if (!racks[r].hasPlace(i)) {
-            return PLACE;
+        int fault = racks[r].faultAt(i);
+        if (fault != 0) {
+            return fault;
         }
         int kind = net.kinds[line];
         if (!isUnder(kind, racks[r].kind)) {
@@ -400,11 +398,9 @@ public final class PairedLines {
         if (isNoRack(r)) {
             return BAD;
         }
-        if (racks[r].isMissing()) {
-            return NOTHING;
-        }
-        if (!racks[r].hasPlace(i)) {
-            return PLACE;
+        int fault = racks[r].faultAt(i);
+        if (fault != 0) {
+            return fault;
         }
         if (racks[r].isEmptyAt(i)) {
             return STATE;
@@ -460,16 +456,11 @@ public final class PairedLines {
     }
 
     public int writes(int s, int out) {
-        if (isNoSheet(s) || isNoSet(out)) {
-            return BAD;
-        }
-        if (sheets[s].isMissing()) {
-            return NOTHING;
+        int fault = faultOf(s, out);
+        if (fault != 0) {
+            return fault;
         }
         int row = rowOf(out);
-        if (table.isMuch(row)) {
-            return MUCH;
-        }
         int degree = degreeOf(out);
         for (int i = 0; i <= degree; i++) {
             if (!sheets[s].hasPlace(i)) {
@@ -483,16 +474,11 @@ public final class PairedLines {
     }
 
     public int same(int s, int out) {
-        if (isNoSheet(s) || isNoSet(out)) {
-            return BAD;
-        }
-        if (sheets[s].isMissing()) {
-            return NOTHING;
+        int fault = faultOf(s, out);
+        if (fault != 0) {
+            return fault;
         }
         int row = rowOf(out);
-        if (table.isMuch(row)) {
-            return MUCH;
-        }
         for (int i = 0; i < sheets[s].size; i++) {
             if (!sheets[s].holds(i, i < SIZES ? table.worths[row + i] : 0)) {
                 return i;
@@ -583,6 +569,17 @@ public final class PairedLines {
 
     private boolean isNoPointIn(int point, int out) {
         return !net.hasPoint(point) || isNoSet(out) || (out >> point & 1) != 0;
+    }
+
+    /** Why a SHEET can't be set beside the COUNTS by OUT; 0: it can. */
+    private int faultOf(int s, int out) {
+        if (isNoSheet(s) || isNoSet(out)) {
+            return BAD;
+        }
+        if (sheets[s].isMissing()) {
+            return NOTHING;
+        }
+        return table.isMuch(rowOf(out)) ? MUCH : 0;
     }
 
     private static boolean isBeyond(int n, int least, int most) {
@@ -1169,12 +1166,11 @@ public final class PairedLines {
             Arrays.fill(kinds, NONE);
         }
 
-        boolean isMissing() {
-            return kind == NONE;
-        }
-
-        boolean hasPlace(int i) {
-            return i >= 0 && i < size;
+        int faultAt(int i) {
+            if (kind == NONE) {
+                return NOTHING;
+            }
+            return i >= 0 && i < size ? 0 : PLACE;
         }
 
         boolean isEmptyAt(int i) {
